@@ -44,20 +44,27 @@ public final class OracleTests {
         PitchMarks p = new PitchMarks();
         Oracle o = new Oracle();
         StringBuilder told = new StringBuilder();
-        boolean big = r.nextInt(6) == 0;
+        int kind = r.nextInt(8);
+        boolean big = kind == 0;
         int left = MOST_CALLS;
         int before = wrong;
         left -= setBounds(run, r, p, o, told, big);
-        int parts = 1 + r.nextInt(5);
-        for (int i = 0; i < parts; i++) {
-            left -= addPart(run, r, p, o, told, big ? 400 : 60);
+        if (kind >= 4) {
+            left -= makeTies(run, r, p, o, told);
+        } else if (kind == 1 && run % 3 == 0) {
+            left -= fillUp(run, r, p, o, told);
+        } else {
+            int parts = 1 + r.nextInt(5);
+            for (int i = 0; i < parts; i++) {
+                left -= addPart(run, r, p, o, told, big ? 400 : 60);
+            }
         }
         String[] names = methods.keySet().toArray(new String[0]);
         while (left-- > 0 && wrong == before) {
             String name = names[r.nextInt(names.length)];
             boolean changes = java.util.Arrays.asList(CHANGES).contains(name);
             if (!changes || r.nextInt(4) == 0) {
-                ask(run, p, o, told, name, arguments(r, name, p));
+                ask(run, p, o, told, name, arguments(r, name, o));
             }
         }
     }
@@ -76,6 +83,39 @@ public final class OracleTests {
                 ask(run, p, o, told, "bound", what, someBound(r, what));
                 calls++;
             }
+        }
+        return calls;
+    }
+
+    /** Pure cycles cost nothing by themselves, and UNVOICED now and then no more than a jump: many PATHS are alike. */
+    private static int makeTies(int run, Random r, PitchMarks p, Oracle o, StringBuilder told) throws Exception {
+        int[] prices = {8, 0, 9, 10 * r.nextInt(6), 10, 10 * r.nextInt(6), 11, r.nextBoolean() ? 0 : 2000, 12, 10 * r.nextInt(3), 7, 5};
+        for (int i = 0; i < prices.length; i += 2) {
+            ask(run, p, o, told, "bound", prices[i], prices[i + 1]);
+        }
+        int parts = 2 + r.nextInt(8);
+        for (int i = 0; i < parts; i++) {
+            int period = 2 + r.nextInt(9);
+            ask(run, p, o, told, "cycles", period, 2 + r.nextInt(20), 1 + (8 + r.nextInt(16)) / period);
+        }
+        return prices.length / 2 + parts;
+    }
+
+    /** As many SAMPLES and FRAMES as there can be. */
+    private static int fillUp(int run, Random r, PitchMarks p, Oracle o, StringBuilder told) throws Exception {
+        ask(run, p, o, told, "bound", 2, 8);
+        ask(run, p, o, told, "bound", 3, 4);
+        ask(run, p, o, told, "bound", 4, 2);
+        ask(run, p, o, told, "bound", 5, 3);
+        int calls = 4;
+        while (o.count(0) < 800) {
+            int period = 2 + r.nextInt(3);
+            if (o.count(0) > 790) {
+                ask(run, p, o, told, "noise", r.nextInt(), 800 - o.count(0), 3);
+            } else {
+                ask(run, p, o, told, "cycles", period, r.nextInt(20), 1 + r.nextInt(8));
+            }
+            calls++;
         }
         return calls;
     }
@@ -117,11 +157,12 @@ public final class OracleTests {
         }
     }
 
-    private static Object[] arguments(Random r, String name, PitchMarks p) {
+    /** Sizes come from the Oracle: a question to PitchMarks would make it find what it should find by itself. */
+    private static Object[] arguments(Random r, String name, Oracle o) {
         Class<?>[] types = methods.get(name)[0].getParameterTypes();
         Object[] a = new Object[types.length];
         for (int i = 0; i < a.length; i++) {
-            a[i] = types[i] == boolean.class ? (Object) r.nextBoolean() : (Object) argument(r, name, i, p);
+            a[i] = types[i] == boolean.class ? (Object) r.nextBoolean() : (Object) argument(r, name, i, o);
         }
         if (name.equals("bound") && r.nextInt(10) != 0) {
             a[1] = someBound(r, (Integer) a[0]);
@@ -129,21 +170,21 @@ public final class OracleTests {
         return a;
     }
 
-    private static int argument(Random r, String name, int i, PitchMarks p) {
+    private static int argument(Random r, String name, int i, Oracle o) {
         if (r.nextInt(60) == 0) {
             int[] wild = {Integer.MIN_VALUE, Integer.MAX_VALUE, -1, -2, 800, 801, 1000000, Integer.MIN_VALUE + 1};
             return wild[r.nextInt(wild.length)];
         }
-        int frames = Math.max(1, p.count(1));
+        int frames = Math.max(1, o.count(1));
         switch (name) {
             case "poke":
-                return i == 0 ? r.nextInt(p.count(0) + 1) : r.nextInt(258) - 129;
+                return i == 0 ? r.nextInt(o.count(0) + 1) : r.nextInt(258) - 129;
             case "sample":
-                return r.nextInt(p.count(0) + 1);
+                return r.nextInt(o.count(0) + 1);
             case "cut":
-                return r.nextInt(p.count(0) / (r.nextInt(4) == 0 ? 1 : 10) + 2);
+                return r.nextInt(o.count(0) / (r.nextInt(4) == 0 ? 1 : 10) + 2);
             case "samples":
-                return r.nextInt(p.count(16) + 2);
+                return r.nextInt(o.count(16) + 2);
             case "feed":
                 return r.nextInt();
             case "cycles":
@@ -154,7 +195,7 @@ public final class OracleTests {
                 return i == 0 ? 1 + r.nextInt(16) : r.nextInt(100);
             case "diff":
             case "rel":
-                return i == 0 ? r.nextInt(frames) : r.nextInt(p.count(5) + 3);
+                return i == 0 ? r.nextInt(frames) : r.nextInt(o.count(5) + 3);
             case "candidate":
             case "through":
             case "both":
@@ -168,24 +209,24 @@ public final class OracleTests {
                 return r.nextInt(4) == 0 ? 0 : r.nextInt(2002);
             case "near":
             case "behind":
-                return r.nextInt(p.count(0) + 20) - 10;
+                return r.nextInt(o.count(0) + 20) - 10;
             case "mark":
             case "rough":
-                return r.nextInt(p.marks() + 1);
+                return r.nextInt(o.marks() + 1);
             case "anew":
-                return i == 2 ? r.nextInt(p.count(0) + 1) : 1 + r.nextInt(4) + (r.nextInt(40) == 0 ? 1 : 0);
+                return i == 2 ? r.nextInt(o.count(0) + 1) : 1 + r.nextInt(4) + (r.nextInt(40) == 0 ? 1 : 0);
             case "tune":
                 return 1 + r.nextInt(20);
             case "matched":
-                return r.nextInt(p.count(17) + 1);
+                return r.nextInt(o.count(17) + 1);
             case "count":
                 return r.nextInt(19);
             case "span":
-                return i == 0 ? r.nextInt(p.spans() + 1) : r.nextInt(8);
+                return i == 0 ? r.nextInt(o.spans() + 1) : r.nextInt(8);
             case "note":
-                return i == 0 ? r.nextInt(p.notes() + 1) : r.nextInt(4);
+                return i == 0 ? r.nextInt(o.notes() + 1) : r.nextInt(4);
             case "lagAt":
-                return i == 0 ? r.nextInt(p.lags() + 1) : r.nextInt(3);
+                return i == 0 ? r.nextInt(o.lags() + 1) : r.nextInt(3);
             case "best":
                 return r.nextInt(9);
             case "loud":

@@ -512,6 +512,25 @@ public final class PromiseTests {
             int rank = k;
             row("the paths count up", all(4, f -> p.bestAt(rank, f)), 0, k >> 2 & 1, k >> 1 & 1, k & 1);
         }
+        laterNumbersDoNotDecide();
+    }
+
+    /** Lag 4, then 9, and a jump costs more than to be UNVOICED: where that is, is told from the first FRAME. */
+    private static void laterNumbersDoNotDecide() {
+        PitchMarks p = made(13);
+        p.cycles(4, 8, 6);
+        p.bound(8, 0);
+        p.bound(9, 50);
+        p.bound(10, 50);
+        p.bound(11, 2000);
+        p.bound(12, 0);
+        p.bound(7, 1);
+        p.cycles(9, 45, 4);
+        row("candidates", all(p.count(1), p::candidates), 2, 2, 2, 2, 2, 2);
+        row("lags", all(p.count(1), f -> p.candidate(f, 0, 0)), 4, 4, 4, 9, 9, 9);
+        due("cost", 50, p.cost(0));
+        row("path", all(6, p::path), 0, 0, 0, 1, 0, 0);
+        row("path", all(6, f -> p.bestAt(1, f)), 0, 0, 1, 0, 0, 0);
     }
 
     private static void otherPaths() {
