@@ -321,7 +321,12 @@ public final class PromiseTests {
         due("FRAMES need WIDE, HIGH and 1", 8, q.count(1));
         q.noise(0, 1, 0);
         due("FRAMES", 9, q.count(1));
-        due("most FRAMES", 100, mostFrames().count(1));
+        PitchMarks full = mostFrames();
+        due("most FRAMES", 100, full.count(1));
+        due("the last one", 500, full.candidate(99, full.candidates(99) - 1, 1));
+        due("the first PATH of all", full.cost(0), full.best(0));
+        due("the same", full.path(99), full.bestAt(0, 99));
+        due("the last SAMPLE", full.sample(799), full.anew(1, 1, 799));
     }
 
     private static PitchMarks mostFrames() {
@@ -531,6 +536,9 @@ public final class PromiseTests {
         due("cost", 50, p.cost(0));
         row("path", all(6, p::path), 0, 0, 0, 1, 0, 0);
         row("path", all(6, f -> p.bestAt(1, f)), 0, 0, 1, 0, 0, 0);
+        // the same as if the first FRAME of 9 were the last one
+        due("live", 0, p.live(2, 1));
+        due("live", 1, p.live(3, 0));
     }
 
     private static void otherPaths() {
