@@ -296,7 +296,7 @@ public final class PitchMarks {
     }
 
     public int span(int i, int what) throws NoSuchElementException {
-        findMarks();
+        findPath();
         need(parts.has(i) && what >= 0 && what <= 6);
         switch (what) {
             case 0:
@@ -310,8 +310,10 @@ public final class PitchMarks {
             case 4:
                 return parts.to(i);
             case 5:
+                findMarks();
                 return beats.sizeIn(i);
             default:
+                findMarks();
                 return beats.worthIn(i);
         }
     }
@@ -612,6 +614,27 @@ public final class PitchMarks {
             size = Math.max(0, size - n);
         }
 
+        /** How much so many SAMPLES are off those that lie a lag behind them; all of them have to be there. */
+        int offItself(int from, int length, int lag) {
+            if (from < 0 || lag < 0 || from + length + lag > size) {
+                return 0;
+            }
+            int sum = 0;
+            for (int i = from; i < from + length; i++) {
+                int off = x[i] - x[i + lag];
+                sum += off < 0 ? -off : off;
+            }
+            return sum;
+        }
+
+        int loudness(int from, int length) {
+            int sum = 0;
+            for (int i = from; i < from + length; i++) {
+                sum += Math.abs(at(i));
+            }
+            return sum;
+        }
+
         int tapeSize() {
             return byteCount;
         }
@@ -704,15 +727,21 @@ public final class PitchMarks {
         }
 
         int diffAt(int frame, int lag) {
-            return isCell(frame, lag) ? diffs[frame * MOST_LAGS + lag] : 0;
+            if (frame < 0 || frame >= MOST_FRAMES || lag < 0 || lag >= MOST_LAGS) {
+                return 0;
+            }
+            return diffs[frame * MOST_LAGS + lag];
         }
 
         int relAt(int frame, int lag) {
-            return isCell(frame, lag) ? rels[frame * MOST_LAGS + lag] : 0;
+            if (frame < 0 || frame >= MOST_FRAMES || lag < 0 || lag >= MOST_LAGS) {
+                return 0;
+            }
+            return rels[frame * MOST_LAGS + lag];
         }
 
         int loudAt(int frame) {
-            return isCell(frame, 0) ? louds[frame] : 0;
+            return frame < 0 || frame >= MOST_FRAMES ? 0 : louds[frame];
         }
 
         void find() {
@@ -746,30 +775,19 @@ public final class PitchMarks {
             return bounds.of(Bounds.WIDE) + bounds.of(Bounds.HIGH) + 1;
         }
 
-        private static boolean isCell(int frame, int lag) {
-            return frame >= 0 && frame < MOST_FRAMES && lag >= 0 && lag < MOST_LAGS;
-        }
-
         private void measure(int frame) {
             int start = frame * bounds.of(Bounds.HOP);
             int wide = bounds.of(Bounds.WIDE);
             int lags = Math.min(MOST_LAGS, bounds.of(Bounds.HIGH) + 2);
             int together = 0;
             for (int lag = 0; lag < lags; lag++) {
-                int off = 0;
-                for (int i = start; i < start + wide; i++) {
-                    off += Math.abs(signal.at(i) - signal.at(i + lag));
-                }
+                int off = signal.offItself(start, wide, lag);
                 // nothing at lag 0, so that REL is 1000 there
                 together += off;
                 diffs[frame * MOST_LAGS + lag] = off;
                 rels[frame * MOST_LAGS + lag] = together == 0 ? 1000 : quotient(1000 * lag * off, together);
             }
-            int loudness = 0;
-            for (int i = start; i < start + wide; i++) {
-                loudness += Math.abs(signal.at(i));
-            }
-            louds[frame] = loudness;
+            louds[frame] = signal.loudness(start, wide);
         }
     }
 
@@ -1056,10 +1074,11 @@ public final class PitchMarks {
 
         private void findHeads(int f) {
             for (int i = 0; i < choices.sizeOf(f); i++) {
+                int here = choices.lagOf(f, i);
                 int least = 0;
                 int from = 0;
                 for (int k = 0; f > 0 && k < choices.sizeOf(f - 1); k++) {
-                    int now = heads[cell(f - 1, k)] + steps.price(choices.lagOf(f - 1, k), choices.lagOf(f, i));
+                    int now = heads[cell(f - 1, k)] + steps.price(choices.lagOf(f - 1, k), here);
                     if (k == 0 || now < least || now == least && ranks[cell(f - 1, k)] < ranks[cell(f - 1, from)]) {
                         least = now;
                         from = k;
@@ -1108,9 +1127,10 @@ public final class PitchMarks {
 
         private void findTails(int f) {
             for (int i = 0; i < choices.sizeOf(f); i++) {
+                int here = choices.lagOf(f, i);
                 int least = f + 1 < size ? FAR : 0;
                 for (int k = 0; f + 1 < size && k < choices.sizeOf(f + 1); k++) {
-                    int now = tails[cell(f + 1, k)] + steps.price(choices.lagOf(f, i), choices.lagOf(f + 1, k));
+                    int now = tails[cell(f + 1, k)] + steps.price(here, choices.lagOf(f + 1, k));
                     least = Math.min(least, now);
                 }
                 tails[cell(f, i)] = least + choices.ownOf(f, i);
@@ -1143,9 +1163,10 @@ public final class PitchMarks {
         /** The row has what PATHS cost to each CANDIDATE of the FRAME ahead; then to those of this one. */
         private void advance(int f, Steps prices) {
             for (int i = 0; i < choices.sizeOf(f); i++) {
+                int here = choices.lagOf(f, i);
                 int least = FAR;
                 for (int k = 0; k < choices.sizeOf(f - 1); k++) {
-                    least = Math.min(least, row[k] + prices.price(choices.lagOf(f - 1, k), choices.lagOf(f, i)));
+                    least = Math.min(least, row[k] + prices.price(choices.lagOf(f - 1, k), here));
                 }
                 nextRow[i] = least + choices.ownOf(f, i);
             }
