@@ -23,6 +23,7 @@ final class PathSentences extends Sentences {
         bestAt();
         would();
         doubled();
+        full();
     }
 
     private static void jumps() {
@@ -189,7 +190,7 @@ final class PathSentences extends Sentences {
     private static PitchMarks alike(int seed) {
         Random random = new Random(seed);
         PitchMarks p = Signals.made(6 + random.nextInt(5));
-        int[][] bounds = {{6, 2000}, {7, 1 + random.nextInt(4)}, {8, random.nextInt(4) / 3}, {9, random.nextInt(3) * 10},
+        int[][] bounds = {{6, 2000}, {7, 1 + random.nextInt(5)}, {8, random.nextInt(4) / 3}, {9, random.nextInt(3) * 10},
             {10, random.nextInt(3) * 10}, {11, random.nextInt(3) * 10}, {12, random.nextInt(4) * 10}};
         for (int[] b : bounds) {
             p.bound(b[0], b[1]);
@@ -438,5 +439,37 @@ final class PathSentences extends Sentences {
         p.bound(8, 0);
         p.bound(7, 1);
         due("without the half of it", 0, p.doubled());
+    }
+
+    /** THE SIGNAL has no room for more, and each FRAME as many CANDIDATES as can be. */
+    private static void full() {
+        PitchMarks p = Signals.mostCandidates();
+        promise(14, "How many CANDIDATES (UNVOICED, too).");
+        due("FRAMES", 99, p.count(1));
+        row("six in each", all(99, p::candidates), all(99, f -> 6));
+        promise(17, "What THE PATH costs (what 0)");
+        due("99 times 8", 792, p.cost(0));
+        promise(20, "What the first of all PATHS through a CANDIDATE costs.");
+        due("the last FRAME UNVOICED", 98 * 8 + 500 + 200, p.through(98, 5));
+        due("lag 10 in the last FRAME", 98 * 8 + 40 + 80 + 150, p.through(98, 4));
+        promise(21, "What the first of all PATHS through two CANDIDATES");
+        due("the first and the last UNVOICED", 97 * 8 + 1000 + 400, p.both(0, 5, 98, 5));
+        due("lag 10 in the last two", 97 * 8 + 80 + 80 + 150, p.both(97, 4, 98, 4));
+        promise(22, "What the first of all PATHS without any DOUBLE CANDIDATE costs.");
+        due("2 is not DOUBLE", 792, p.single());
+        promise(23, "LIVE by d (0 to 20).");
+        due("of the last FRAME", 0, p.live(98, 20));
+        promise(25, "What the k-th of all PATHS (0 to 7; 0: THE PATH) costs");
+        // lag 4 at one end costs 8 and 20 and 150 more, lag 6 there 16 and 40 and 150
+        row("the first eight", all(8, p::best), 792, 970, 970, 978, 978, 986, 986, 994);
+        promise(26, "Which CANDIDATE of a FRAME the k-th PATH has");
+        row("in the last FRAME", all(8, k -> p.bestAt(k, 98)), 0, 1, 0, 1, 0, 1, 0, 1);
+        promise(27, "What THE PATH would cost");
+        due("would(0, 0)", 792, p.would(0, 0));
+        promise(28, "In how many FRAMES THE PATH has a CANDIDATE that is DOUBLE.");
+        p.bound(4, 3);
+        due("4, but 2 is none", 0, p.doubled());
+        PitchMarks hundred = Signals.mostSpans();
+        due("a hundred FRAMES", 0, hundred.doubled());
     }
 }

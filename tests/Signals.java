@@ -169,6 +169,32 @@ final class Signals {
         return told(p, x);
     }
 
+    /** Lag 2 in 800 SAMPLES, and so all even lags, up to 10: five DIPS in each of 99 FRAMES. */
+    static PitchMarks mostCandidates() {
+        PitchMarks p = made(10);
+        p.bound(7, 5);
+        for (int i = 0; i < 8; i++) {
+            p.cycles(2, 60, 50);
+        }
+        return p;
+    }
+
+    /** Lags 2 and 4 in turn, with no other ones to choose: each FRAME is a NOTE. */
+    static PitchMarks mostNotes() {
+        PitchMarks p = made(4);
+        int[][] bounds = {{2, 9}, {7, 1}, {8, 0}, {10, 0}, {11, 0}};
+        for (int[] b : bounds) {
+            p.bound(b[0], b[1]);
+        }
+        int[] x = new int[396];
+        int[][] cycles = {{60, 0, 60, 0}, {60, 30, 0, -30}};
+        for (int i = 0; i < x.length; i++) {
+            x[i] = cycles[i / 9 % 2][i % 9 % 4];
+        }
+        told(p, x);
+        return told(p, x);
+    }
+
     /** Some SAMPLES, bytes and lags of a tune, so that a change of any of them is seen. */
     static PitchMarks busy() {
         PitchMarks p = two();

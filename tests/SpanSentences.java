@@ -235,6 +235,19 @@ final class SpanSentences extends Sentences {
         refused("another one, and full", p, NOT, () -> p.tune(49));
         term("THE TUNE has at most 12 lags, as told.");
         due("lags of THE TUNE", 12, p.count(17));
+        PitchMarks most = Signals.mostNotes();
+        row("each FRAME is a NOTE", new int[] {most.count(1), most.notes()}, 88, 88);
+        for (int i = 0; i < 12; i++) {
+            most.tune(4);
+        }
+        row("12 of them with 12 of 88 NOTES", all(2, most::match), 76 * 60, 12);
+        row("those of lag 4", all(12, most::matched), 1, 3, 5, 7, 9, 11, 13, 15, 17, 19, 21, 23);
+        most.hush();
+        for (int i = 0; i < 12; i++) {
+            most.tune(48);
+        }
+        row("none of them", all(2, most::match), 100 * 60, 0);
+        due("the last one", NONE, most.matched(11));
         promise(38, "THE TUNE is empty: how many it had.");
         due("hush", 12, p.hush());
         due("hush", 0, p.hush());
