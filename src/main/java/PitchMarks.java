@@ -153,19 +153,19 @@ public final class PitchMarks {
 
     public int diff(int frame, int lag) throws NoSuchElementException {
         need(frames.has(frame) && isLag(lag));
-        frames.find();
+        frames.measure(frame);
         return frames.diffAt(frame, lag);
     }
 
     public int rel(int frame, int lag) throws NoSuchElementException {
         need(frames.has(frame) && isLag(lag));
-        frames.find();
+        frames.measure(frame);
         return frames.relAt(frame, lag);
     }
 
     public int loud(int frame) throws NoSuchElementException {
         need(frames.has(frame));
-        frames.find();
+        frames.measure(frame);
         return frames.loudAt(frame);
     }
 
@@ -747,11 +747,27 @@ public final class PitchMarks {
         void find() {
             int all = size();
             for (int f = 0; f < all; f++) {
-                if (!measured[f]) {
-                    measure(f);
-                    measured[f] = true;
-                }
+                measure(f);
             }
+        }
+
+        void measure(int frame) {
+            if (frame < 0 || frame >= MOST_FRAMES || measured[frame]) {
+                return;
+            }
+            int start = frame * bounds.of(Bounds.HOP);
+            int wide = bounds.of(Bounds.WIDE);
+            int lags = Math.min(MOST_LAGS, bounds.of(Bounds.HIGH) + 2);
+            int together = 0;
+            for (int lag = 0; lag < lags; lag++) {
+                int off = signal.offItself(start, wide, lag);
+                // nothing at lag 0, so that REL is 1000 there
+                together += off;
+                diffs[frame * MOST_LAGS + lag] = off;
+                rels[frame * MOST_LAGS + lag] = together == 0 ? 1000 : quotient(1000 * lag * off, together);
+            }
+            louds[frame] = signal.loudness(start, wide);
+            measured[frame] = true;
         }
 
         void forgetAll() {
@@ -773,21 +789,6 @@ public final class PitchMarks {
 
         private int reach() {
             return bounds.of(Bounds.WIDE) + bounds.of(Bounds.HIGH) + 1;
-        }
-
-        private void measure(int frame) {
-            int start = frame * bounds.of(Bounds.HOP);
-            int wide = bounds.of(Bounds.WIDE);
-            int lags = Math.min(MOST_LAGS, bounds.of(Bounds.HIGH) + 2);
-            int together = 0;
-            for (int lag = 0; lag < lags; lag++) {
-                int off = signal.offItself(start, wide, lag);
-                // nothing at lag 0, so that REL is 1000 there
-                together += off;
-                diffs[frame * MOST_LAGS + lag] = off;
-                rels[frame * MOST_LAGS + lag] = together == 0 ? 1000 : quotient(1000 * lag * off, together);
-            }
-            louds[frame] = signal.loudness(start, wide);
         }
     }
 
@@ -970,7 +971,7 @@ public final class PitchMarks {
             for (int f = size - 1; f >= 0; f--) {
                 chosen[f] = i;
                 chosenLags[f] = choices.lagOf(f, i);
-                i = comesFrom[cell(f, i)];
+                i = aheadOf(f, i);
             }
         }
 
@@ -1050,7 +1051,7 @@ public final class PitchMarks {
             }
             int i = firstAtEnd(end);
             for (int f = end; f > frame; f--) {
-                i = comesFrom[cell(f, i)];
+                i = aheadOf(f, i);
             }
             return i;
         }
@@ -1108,10 +1109,16 @@ public final class PitchMarks {
         private boolean isAhead(int f, int one, int other) {
             int from = comesFrom[cell(f, one)];
             int otherFrom = comesFrom[cell(f, other)];
-            if (f == 0 || from == otherFrom) {
+            if (from == otherFrom || !choices.has(f - 1, from) || !choices.has(f - 1, otherFrom)) {
                 return one < other;
             }
             return ranks[cell(f - 1, from)] < ranks[cell(f - 1, otherFrom)];
+        }
+
+        /** Which CANDIDATE of the FRAME ahead the first PATH to this one has; 0, if there is none. */
+        private int aheadOf(int f, int i) {
+            int from = choices.has(f, i) ? comesFrom[cell(f, i)] : 0;
+            return choices.has(f - 1, from) ? from : 0;
         }
 
         private int firstAtEnd(int f) {
@@ -1213,6 +1220,9 @@ public final class PitchMarks {
             }
             int way = nexts[k];
             for (int f = 0; f < frame; f++) {
+                if (way < 0 || !choices.has(f, way / MOST_RANKS)) {
+                    return NONE;
+                }
                 way = nexts[place(f, way / MOST_RANKS) + way % MOST_RANKS];
             }
             return way / MOST_RANKS;
@@ -1673,7 +1683,8 @@ public final class PitchMarks {
             }
             spanWorths[span] = worths[first];
             int m = first;
-            while (m != NONE && size < MOST_SAMPLES) {
+            // NONE is ahead of each SPAN
+            while (m >= from && m < to && size < MOST_SAMPLES) {
                 places[size] = m;
                 spanOf[size] = span;
                 size++;
